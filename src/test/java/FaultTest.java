@@ -55,7 +55,7 @@ final class FaultTest {
 
     private static void inTexts() {
         hang1("'^'", "'  ^'", "'a^[b]'", "'[a]^b'", "'a^5'", "'5^a'", "'a^~'", "'abcdefgh^i'", "'123456^7'", "'-123456^7'", "'-^'", "'-^ 5'", "'-^a'");
-        hang1("'a*^'", "'a* ^b'", "'a*1234^5'", "'a*2^b'", "'a@2^*2'", "'a!2 ^@2'", "'a!2^?'", "'a@2!3 ^!2'", "'a?^b'", "'a^,b'", "'a b^]'");
+        hang1("'a*^'", "'a* ^b'", "'a*1234^5'", "'a*0001^0'", "'a*0001^9'", "'a*2^b'", "'a@2^*2'", "'a!2 ^@2'", "'a!2^?'", "'a@2!3 ^!2'", "'a?^b'", "'a^,b'", "'a b^]'");
         hang1("'[a^'", "'[a b ^>'", "'[^]'", "'[a,^]'", "'[^,a]'", "'<^>'", "'<a^,b>'", "'<a^]'", "'{a}^'", "'{a} ^4'", "'{a}%^'", "'{a}% ^x'", "'{^}%2'");
         hang1("'a(^)'", "'a(3^)'", "'a(3 ^8)'", "'a(3,^)'", "'a(3,8^'", "'a(3,8,^)'", "'a(3,8,1^,1)'", "'a(^-3,8)'", "'a(1234^5,8)'");
         hang1("'a(3,8)^b'", "'^*2'", "'^@2'", "'a ^)'", "'^A'", "'a ^.'", "'a*^-2'", "'a ^='", "'~^a'", "'a -^ 5'");
@@ -173,6 +173,16 @@ final class FaultTest {
         Check.same("200", new Check().on(0, "'" + words + "'").told(), "0 -1 200");
         new Check().hangFault("'^" + words + "a'", 5, 200);
         new Check().hangFault("'" + words + "a ^b'", 5, 200);
+        new Check().hangFault("'" + words + "a ^-12'", 5, 200);
+        new Check().hangFault("'" + words + "a ^~'", 5, 200);
+        new Check().hangFault("'" + words + "a^?'", 5, 200);
+        new Check().hangFault("'" + words + "a ^*2'", 5, 200);
+        new Check().hangFault("'" + words + "a^(1,2)'", 5, 200);
+        new Check().hangFault("'" + Check.times(198, "a ") + "[a [^b, c]]'", 5, 200);
+        new Check().hangFault("'" + Check.times(196, "a ") + "^[b, c]'", 5, 200);
+        new Check().hangFault("'" + Check.times(197, "a ") + "[ ^b c d]'", 5, 200);
+        new Check().hangFault("'" + Check.times(197, "a ") + "^< b c d>'", 5, 200);
+        new Check().hangFault("'" + Check.times(197, "a ") + "^{b c d}%2'", 5, 200);
         new Check().hangFault("^rev '" + words + "'", 5, 200);
         new Check().hangFault("^fast 64 '" + words + "'", 5, 200);
         new Check().hangFault("'" + Check.times(197, "a ") + "' & (^rev 'c')", 5, 200);
@@ -212,6 +222,9 @@ final class FaultTest {
         Check.same("REACH 64", new Check().on(0, "slow 64 'a'").x.bound(0, 2), 64);
         Check.same("REACH of less than one", new Check().on(0, "fast 64:63 'a'").x.bound(0, 2), 1);
         new Check().hangFault("^slow 2 (slow 64 'b')", 8, 3);
+        String heavy = "fast 32 '[~*30]!16 [~*30]!16 [~*30]!16 ~!16 ~!8' ";
+        Check.same("WORK 50000", new Check().on(0, heavy + "& '~!16 ~!16 ~!13'").x.bound(0, 3), 50000);
+        new Check().hangFault(heavy + "^& '~!16 ~!16 ~!12 [~]'", 9, 19);
         new Check().hangFault("'a*20 b*20 c*20 d*20 e*20 f*20' ^# '[a,b]*20 [a,b]*20 [a,b]*20'", 9, 32);
         String sum = "'a' " + Check.times(58, "+ 'b' ");
         Check.same("DEPTH 60", new Check().on(0, sum).x.bound(0, 4), 60);

@@ -83,9 +83,14 @@ final class PatternTest {
         rowIs("ply 2 (slow 3 'a')", 0, "0+3/2:a");
         rowIs("ply 2 (slow 3 'a')", 1, "1/2+3/2:a");
         rowIs("ply 2 (slow 3 'a')", 2, "");
+        rowIs("ply 2 (late 1:2 'a')", 0, "0+1/2:a 1/2+1/2:a");
+        rowIs("ply 2 (late 1:2 'a')", 1, "0+1/2:a 1/2+1/2:a");
         rowIs("ply 2 '[a b,c]'", 0, "0+1/4:a 0+1/2:c 1/4+1/4:a 1/2+1/2:c 1/2+1/4:b 3/4+1/4:b");
         rowIs("squeeze 1:4 1 'a b'", 0, "1/4+3/8:a 5/8+3/8:b");
         rowIs("squeeze 1:4 1 'a b'", -2, "1/4+3/8:a 5/8+3/8:b");
+        rowIs("squeeze 1:9 4:9 'a b'", 0, "1/9+1/6:a 5/18+1/6:b");
+        rowIs("squeeze 1:10 1:2 'a b/2'", 0, "1/10+1/5:a 3/10+2/5:b");
+        rowIs("squeeze 1:10 1:2 'a b/2'", 1, "1/10+1/5:a");
     }
 
     private static void choices() {

@@ -82,6 +82,14 @@ final class StudioTest {
         Check.same("all stays", all.x.ask(7, 0), 2);
         Check.same("a fault of read", all.read("b = 'x'\na = 'z'\nc = q"), 2);
         Check.same("none holds", all.hang(6, "b"), 2);
+        String[] names = {"b", "bb", "bbb", "c", "aa", "a0", "a1", "az", "z", "zz", "z9", "b0", "abcdefghijkl", "abcdefghijk9"};
+        for (int i = 0; i < names.length; i++) {
+            all.with(names[i] + " = '" + i + "'");
+        }
+        Check.same("names that are not the same", all.x.about(2), 1 + names.length);
+        for (int i = 0; i < names.length; i++) {
+            Check.same(names[i], all.on(6, names[i]).row(6, 0), "0+1:#" + i);
+        }
         Check.same("the former holds", all.on(6, "a").row(6, 0), "0+1/2:x 1/2+1/2:y");
     }
 
@@ -127,6 +135,10 @@ final class StudioTest {
         Check.same("now", all.x.about(0), 5);
         Check.same("the last", all.x.heard(23, 1), 5);
         Check.same("in all", all.x.about(5), 6 + 2 + 2 + 1 + 24);
+        Check later = new Check().on(0, "'~ a b'").on(1, "'c ~ ~ d'").on(2, "'e'");
+        Check.same("two cycles", later.x.play(1920), 10);
+        String both = "1@0,0+1/4:c 2@0,0+1:e 0@0,1/3+1/3:a 0@0,2/3+1/3:b 1@0,3/4+1/4:d";
+        Check.same("by begins, then by tracks", later.heard(10), both + " " + both.replace("@0", "@1"));
     }
 
     private static void swapping() {
