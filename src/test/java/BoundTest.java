@@ -12,7 +12,7 @@ final class BoundTest {
     private static void are(String exp, String bounds, int counted) {
         Check all = new Check().on(0, exp);
         Check.same("bounds of " + exp, all.bounds(0), bounds);
-        Check.same("counted of " + exp, all.x.told(2), counted);
+        Check.same("counted of " + exp, all.x().told(2), counted);
     }
 
     private static void texts() {
@@ -85,22 +85,22 @@ final class BoundTest {
         Check all = new Check().with("p = 'a b'\nf x y = x & y & 'c'");
         Check.same("a definition", all.on(0, "p").bounds(0), "2 2 1 3 2");
         Check.same("one with parameters", all.on(0, "f p (rev p)").bounds(0), "2 5 1 10 4");
-        Check.same("counted of it", all.x.told(2), 6);
+        Check.same("counted of it", all.x().told(2), 6);
     }
 
     private static void asked() {
         Check all = new Check();
-        Check.same("without one", all.x.bound(0, 0), -1);
+        Check.same("without one", all.x().bound(0, 0), -1);
         all.on(7, "'a'");
-        Check.same("its own", all.x.bound(7, 4), 2);
-        Check.same("5", all.x.bound(7, 5), -1);
-        Check.same("-1", all.x.bound(7, -1), -1);
-        Check.same("no track", all.x.bound(8, 0), -1);
-        Check.same("no track", all.x.bound(-1, 0), -1);
-        all.x.play(1);
+        Check.same("its own", all.x().bound(7, 4), 2);
+        Check.same("5", all.x().bound(7, 5), -1);
+        Check.same("-1", all.x().bound(7, -1), -1);
+        Check.same("no track", all.x().bound(8, 0), -1);
+        Check.same("no track", all.x().bound(-1, 0), -1);
+        all.x().play(1);
         all.on(7, "'a b c'");
-        Check.same("it has the former one until the next cycle", all.x.bound(7, 0), 1);
-        all.x.play(959);
-        Check.same("then the next", all.x.bound(7, 0), 3);
+        Check.same("it has the former one until the next cycle", all.x().bound(7, 0), 1);
+        all.x().play(959);
+        Check.same("then the next", all.x().bound(7, 0), 3);
     }
 }

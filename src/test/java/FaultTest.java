@@ -38,8 +38,8 @@ final class FaultTest {
         hang1("fast ^12345 'a'", "fast ^3:12345 'a'", "fast ^12345:3 'a'", "fast 3^: 'a'", "fast 3^:x 'a'", "fast 3 ^:4 'a'");
         hang1("fast 3:4^:5 'a'", "^'a", "^'a\nb'", "^'a\u0001'", "'a' & ^'b", "every ^00001 rev 'a'");
         new Check().hangFault("^abcdefghijkl", 2, 0);
-        Check.same("no blanks needed", new Check().on(0, "fast 2'a b'&rev'c'").x.ask(0, 0), 5);
-        Check.same("four digits", new Check().on(0, "fast 0003:0002 'a'").x.bound(0, 0), 3);
+        Check.same("no blanks needed", new Check().on(0, "fast 2'a b'&rev'c'").x().ask(0, 0), 5);
+        Check.same("four digits", new Check().on(0, "fast 0003:0002 'a'").x().bound(0, 0), 3);
     }
 
     private static void expressions() {
@@ -77,11 +77,11 @@ final class FaultTest {
     }
 
     private static void headers() {
-        Check all = new Check();
         for (String name : "fast slow early late rev every when off over iter ply chunk inside rot struct mask drop keep some within squeeze".split(" ")) {
-            all.readFault("^" + name + " = 'a'", 2, 0);
-            all.readFault("f ^" + name + " = 'a'", 2, 0);
+            new Check().readFault("^" + name + " = 'a'", 2, 0);
+            new Check().readFault("f ^" + name + " = 'a'", 2, 0);
         }
+        Check all = new Check();
         all.readFault("f ^f = 'a'", 2, 0);
         all.readFault("f x y ^x = 'a'", 2, 0);
         all.readFault("f a b c d ^e = 'a'", 2, 0);
@@ -99,9 +99,9 @@ final class FaultTest {
         all.readFault("a = ^b 'x'", 2, 0);
         Check.same("an empty tape", all.read(""), 0);
         Check.same("empty lines", all.read("\n  \n\n"), 0);
-        Check.same("none", all.x.about(2), 0);
+        Check.same("none", all.x().about(2), 0);
         Check.same("lines", all.read("\na='x'\n\n  b c d e f = c\nabcdefghijkl = a"), 0);
-        Check.same("three", all.x.about(2), 3);
+        Check.same("three", all.x().about(2), 3);
     }
 
     private static void range(String before, int least, int most, String after) {
@@ -213,21 +213,21 @@ final class FaultTest {
 
     private static void boundsBroken() {
         String five = "[[[[[[[~@5]@5]@5]@5]@5]@5]@16]";
-        Check.same("GRAIN 1000000", new Check().on(0, "'" + five + "@4'").x.bound(0, 0), 1000000);
+        Check.same("GRAIN 1000000", new Check().on(0, "'" + five + "@4'").x().bound(0, 0), 1000000);
         new Check().hangFault("'^" + five + "@5'", 6, 8);
         new Check().hangFault("^fast 64 (fast 64 (fast 64 (fast 4 '~')))", 6, 5);
         new Check().hangFault("'[[[~*32]*32]*32]^*32'", 6, 7);
-        Check.same("CROWD 400", new Check().on(0, "'[a*20]*20'").x.bound(0, 1), 400);
+        Check.same("CROWD 400", new Check().on(0, "'[a*20]*20'").x().bound(0, 1), 400);
         new Check().hangFault("'[a*20]^*21'", 7, 3);
-        Check.same("REACH 64", new Check().on(0, "slow 64 'a'").x.bound(0, 2), 64);
-        Check.same("REACH of less than one", new Check().on(0, "fast 64:63 'a'").x.bound(0, 2), 1);
+        Check.same("REACH 64", new Check().on(0, "slow 64 'a'").x().bound(0, 2), 64);
+        Check.same("REACH of less than one", new Check().on(0, "fast 64:63 'a'").x().bound(0, 2), 1);
         new Check().hangFault("^slow 2 (slow 64 'b')", 8, 3);
         String heavy = "fast 32 '[~*30]!16 [~*30]!16 [~*30]!16 ~!16 ~!8' ";
-        Check.same("WORK 50000", new Check().on(0, heavy + "& '~!16 ~!16 ~!13'").x.bound(0, 3), 50000);
+        Check.same("WORK 50000", new Check().on(0, heavy + "& '~!16 ~!16 ~!13'").x().bound(0, 3), 50000);
         new Check().hangFault(heavy + "^& '~!16 ~!16 ~!12 [~]'", 9, 19);
         new Check().hangFault("'a*20 b*20 c*20 d*20 e*20 f*20' ^# '[a,b]*20 [a,b]*20 [a,b]*20'", 9, 32);
         String sum = "'a' " + Check.times(58, "+ 'b' ");
-        Check.same("DEPTH 60", new Check().on(0, sum).x.bound(0, 4), 60);
+        Check.same("DEPTH 60", new Check().on(0, sum).x().bound(0, 4), 60);
         new Check().hangFault(sum + "^+ 'c'", 10, 2 + 58 * 3 + 2);
     }
 
@@ -279,14 +279,14 @@ final class FaultTest {
             lines.append('n').append(i).append("='a'\n");
         }
         Check all = new Check().with(lines.toString());
-        Check.same("40", all.x.about(2), 40);
+        Check.same("40", all.x().about(2), 40);
         Check.same("one more", all.read("n0 = 'b'\nmore = 'a'"), 11);
         Check.same("told of it", all.told(), "11 -1 4");
         Check.same("none of them holds", all.on(0, "n0").row(0, 0), "0+1:a");
         all.readFault("more = 'a'\nn0 = ^x", 2, 2);
         all.with("n0 = 'b'\nn0 = 'c'");
         Check.same("told again", all.on(0, "n0").row(0, 0), "0+1:c");
-        Check.same("still 40", all.x.about(2), 40);
+        Check.same("still 40", all.x().about(2), 40);
         Check.same("41 at once", new Check().read(lines + "z='a'"), 11);
         Check.same("lines of one name", new Check().read(Check.times(199, "p x=x\n")), 0);
     }

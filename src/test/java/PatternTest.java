@@ -181,11 +181,11 @@ final class PatternTest {
     private static void seeds() {
         Check all = new Check().on(0, "'a*8?' & drop 500 'b*8'");
         String before = all.row(0, 4);
-        all.x.seed(12345);
+        all.x().seed(12345);
         Check.same("another seed", all.row(0, 4).equals(before), false);
-        all.x.seed(0);
+        all.x().seed(0);
         Check.same("seed 0 again", all.row(0, 4), before);
-        all.x.seed(-1);
+        all.x().seed(-1);
         Check.same("seed below 0", all.on(0, "drop 500 'a*8'").row(0, 7), "0+1/8:a 1/4+1/8:a 1/2+1/8:a 5/8+1/8:a 7/8+1/8:a");
     }
 
@@ -200,40 +200,40 @@ final class PatternTest {
 
     private static void asking() {
         Check all = new Check();
-        Check.same("event ahead of ask", all.x.event(0, 0), -1);
-        Check.same("letter ahead of ask", all.x.letter(0, 0), -1);
-        Check.same("ask without a pattern", all.x.ask(0, 0), -1);
+        Check.same("event ahead of ask", all.x().event(0, 0), -1);
+        Check.same("letter ahead of ask", all.x().letter(0, 0), -1);
+        Check.same("ask without a pattern", all.x().ask(0, 0), -1);
         all.on(0, "'ab 5'");
-        Check.same("ask", all.x.ask(0, 0), 2);
-        Check.same("ask of no track", all.x.ask(8, 0), -1);
-        Check.same("ask of no track", all.x.ask(-1, 0), -1);
-        Check.same("ask of a track without one", all.x.ask(1, 0), -1);
-        Check.same("ask too early", all.x.ask(0, -1001), -1);
-        Check.same("ask too late", all.x.ask(0, 100001), -1);
-        Check.same("what was asked stays", all.x.event(1, 4), 5);
-        Check.same("event -1", all.x.event(-1, 0), -1);
-        Check.same("event 2", all.x.event(2, 0), -1);
-        Check.same("event's 7", all.x.event(0, 7), -1);
-        Check.same("event's -1", all.x.event(0, -1), -1);
-        Check.same("number without one", all.x.event(0, 4), 0);
-        Check.same("has a number", all.x.event(0, 5), 0);
-        Check.same("has a number", all.x.event(1, 5), 1);
-        Check.same("letters", all.x.event(0, 6), 2);
-        Check.same("letters", all.x.event(1, 6), 0);
-        Check.same("letter 0", all.x.letter(0, 0), 'a');
-        Check.same("letter 1", all.x.letter(0, 1), 'b');
-        Check.same("letter 2", all.x.letter(0, 2), -1);
-        Check.same("letter -1", all.x.letter(0, -1), -1);
-        Check.same("letter of a number", all.x.letter(1, 0), -1);
-        Check.same("letter of no event", all.x.letter(2, 0), -1);
-        Check.same("letter of no event", all.x.letter(-1, 0), -1);
-        all.x.hush(0);
-        Check.same("what was asked stays", all.x.letter(0, 1), 'b');
-        Check.same("the first cycle", all.on(0, "'a'").x.ask(0, -1000), 1);
-        Check.same("the last cycle", all.x.ask(0, 100000), 1);
-        Check.same("a row of none", all.on(0, "'~'").x.ask(0, 0), 0);
-        Check.same("no event of it", all.x.event(0, 0), -1);
-        Check.same("a row of 400", all.on(0, "'[a*20]*20'").x.ask(0, 0), 400);
-        Check.same("its last", all.x.event(399, 0), 399);
+        Check.same("ask", all.x().ask(0, 0), 2);
+        Check.same("ask of no track", all.x().ask(8, 0), -1);
+        Check.same("ask of no track", all.x().ask(-1, 0), -1);
+        Check.same("ask of a track without one", all.x().ask(1, 0), -1);
+        Check.same("ask too early", all.x().ask(0, -1001), -1);
+        Check.same("ask too late", all.x().ask(0, 100001), -1);
+        Check.same("what was asked stays", all.x().event(1, 4), 5);
+        Check.same("event -1", all.x().event(-1, 0), -1);
+        Check.same("event 2", all.x().event(2, 0), -1);
+        Check.same("event's 7", all.x().event(0, 7), -1);
+        Check.same("event's -1", all.x().event(0, -1), -1);
+        Check.same("number without one", all.x().event(0, 4), 0);
+        Check.same("has a number", all.x().event(0, 5), 0);
+        Check.same("has a number", all.x().event(1, 5), 1);
+        Check.same("letters", all.x().event(0, 6), 2);
+        Check.same("letters", all.x().event(1, 6), 0);
+        Check.same("letter 0", all.x().letter(0, 0), 'a');
+        Check.same("letter 1", all.x().letter(0, 1), 'b');
+        Check.same("letter 2", all.x().letter(0, 2), -1);
+        Check.same("letter -1", all.x().letter(0, -1), -1);
+        Check.same("letter of a number", all.x().letter(1, 0), -1);
+        Check.same("letter of no event", all.x().letter(2, 0), -1);
+        Check.same("letter of no event", all.x().letter(-1, 0), -1);
+        all.x().hush(0);
+        Check.same("what was asked stays", all.x().letter(0, 1), 'b');
+        Check.same("the first cycle", all.on(0, "'a'").x().ask(0, -1000), 1);
+        Check.same("the last cycle", all.x().ask(0, 100000), 1);
+        Check.same("a row of none", all.on(0, "'~'").x().ask(0, 0), 0);
+        Check.same("no event of it", all.x().event(0, 0), -1);
+        Check.same("a row of 400", all.on(0, "'[a*20]*20'").x().ask(0, 0), 400);
+        Check.same("its last", all.x().event(399, 0), 399);
     }
 }

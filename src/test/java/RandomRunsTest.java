@@ -226,6 +226,8 @@ final class RandomRunsTest {
         {"g x = '{[~,0 a ] <abcdefgh(3 ,3) 0>?!12 [a*5 -1,0 123456,bd?]@5}%1 < [hh ~@01]@3 2 [2 -3] @4 [abcdefgh 2( 3,8)/2]>@15 { <sn>@6}%1 bd'", "struct (ply 5 '~!5 cp ') (rev 'hh');off 2 (g) '7( 5,6 )? -3' - chunk 3 g (g ' bd -3 -1 ');g (early 2 '[ ~(3 ,6) ?*4@1 -1](1,4,3)') & '123456 b'", "0 -1 0", "5 134 200", "", ""}
     };
 
+    private static final int EVENTS_A_STUDIO = 20;
+
     public static void main(String[] args) {
         for (String[] run : RUNS) {
             Check all = new Check();
@@ -234,16 +236,35 @@ final class RandomRunsTest {
             boolean made = all.hang(0, run[1]) == 0;
             Check.same("told of " + run[1], all.told(), run[3]);
             Check.same("bounds of " + run[1], made ? all.bounds(0) : "", run[4]);
-            Check.same("rows of " + run[1], made ? hashes(all) : "", run[5]);
+            Check.same("rows of " + run[1], made ? hashes(run) : "", run[5]);
         }
         Check.finish("RandomRunsTest");
     }
 
-    private static String hashes(Check all) {
+    private static String hashes(String[] run) {
         StringBuilder hashes = new StringBuilder();
         for (int c : CYCLES) {
-            hashes.append(hashes.length() == 0 ? "" : " ").append(all.row(0, c).hashCode());
+            hashes.append(hashes.length() == 0 ? "" : " ").append(row(run, c).hashCode());
         }
         return hashes.toString();
+    }
+
+    /** A long row takes more calls than one object has, so each few events are asked of a studio of their own. */
+    private static String row(String[] run, int c) {
+        StringBuilder row = new StringBuilder();
+        int many = studio(run).x().ask(0, c);
+        for (int from = 0; from < many; from += EVENTS_A_STUDIO) {
+            Check part = studio(run);
+            part.x().ask(0, c);
+            row.append(from == 0 ? "" : " ").append(part.events(from, Math.min(many, from + EVENTS_A_STUDIO)));
+        }
+        return row.toString();
+    }
+
+    private static Check studio(String[] run) {
+        Check all = new Check();
+        all.read(run[0]);
+        all.hang(0, run[1]);
+        return all;
     }
 }

@@ -91,8 +91,8 @@ final class RobustTest {
         all.on(7, "some 500 (ply 2) (mask '1 0' (fast 7:3 '[[a b]*5,c d e]'))");
         int many = 0;
         for (int i = 0; i < 20; i++) {
-            many += all.x.play(3840);
+            many += all.x().play(3840);
         }
-        Check.same("in all", all.x.about(5), many);
+        Check.same("in all", all.x().about(5), many);
     }
 }
