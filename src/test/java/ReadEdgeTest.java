@@ -364,6 +364,12 @@ final class ReadEdgeTest {
         none("over (" + Check.times(25, "(rev) . ") + "rev) 'a'", "over (# 'b'" + Check.times(15, " . # 'b'") + ") 'a'");
         none("'" + Check.times(18, "[") + "[a] [b] <c> {d}%1 e(1,1) f" + Check.times(18, "]") + "'");
         new Check().with(Check.times(25, "d = ('a')\n"));
+        Check all = new Check();
+        all.hangFault(nineteen + "^'a", 1, 0);
+        all.hangFault("'" + Check.times(9, "[<") + "[^<a'", 4, 0);
+        all.hangFault("'" + Check.times(9, "[{") + "a(1,2 ^x'", 1, 0);
+        all.readFault("d = " + nineteen + "over (rev . ^q", 2, 0);
+        all.on(0, nineteen + "'a'" + close);
     }
 
     /** Where one more could not stand, it is FAULT 1, however many are open. */

@@ -13,6 +13,7 @@ final class RowEdgeTest {
         numbers();
         orders();
         farCycles();
+        otherGrains();
         drawsBelow();
         drawsOfLowestTerms();
         questions();
@@ -521,6 +522,39 @@ final class RowEdgeTest {
         rowIs("late 64 '<a b c>'", 100000, "0+1:a");
         rowIs("drop 500 'a*5'", -1000, "");
         rowIs("drop 500 'a*5'", 100000, "0+1/5:a 1/5+1/5:a 2/5+1/5:a");
+    }
+
+    /** Times are exact where parts are by other numbers than one another. */
+    private static void otherGrains() {
+        rowIs("within 0 1:2 (struct '1*3') 'a b'", 0, "0+1/3:a 1/3+1/3:a 1/2+1/2:b");
+        rowIs("within 1:2 1 (struct '1*3') 'a b'", 0, "0+1/2:a 2/3+1/3:b");
+        rowIs("chunk 2 (struct '1*3') 'a b'", 0, "0+1/3:a 1/3+1/3:a 1/2+1/2:b");
+        rowIs("chunk 2 (struct '1*3') 'a b'", 1, "0+1/2:a 2/3+1/3:b");
+        rowIs("chunk 4 (struct '1*3') 'a b'", 0, "0+1/3:a 1/2+1/2:b");
+        rowIs("chunk 4 (struct '1*3') 'a b'", 1, "0+1/2:a 1/3+1/3:a 1/2+1/2:b");
+        rowIs("chunk 4 (struct '1*3') 'a b'", 2, "0+1/2:a 2/3+1/3:b");
+        rowIs("chunk 4 (struct '1*3') 'a b'", 3, "0+1/2:a 1/2+1/2:b");
+        rowIs("every 2 (struct '1*3') 'a b'", 0, "0+1/3:a 1/3+1/3:a 2/3+1/3:b");
+        rowIs("every 2 (struct '1*3') 'a b'", 1, "0+1/2:a 1/2+1/2:b");
+        rowIs("when 2 1 (struct '1*3') 'a b'", 0, "0+1/2:a 1/2+1/2:b");
+        rowIs("when 2 1 (struct '1*3') 'a b'", 1, "0+1/3:a 1/3+1/3:a 2/3+1/3:b");
+        rowIs("over (struct '1*3') 'a b'", 0, "0+1/2:a 0+1/3:a 1/3+1/3:a 1/2+1/2:b 2/3+1/3:b");
+        rowIs("off 1:4 (struct '1*3') 'a b'", 0, "0+1/2:a 1/4+1/3:a 1/2+1/2:b 7/12+1/3:a 11/12+1/3:b");
+        rowIs("some 1000 (struct '1*3') 'a b'", 0, "0+1/3:a 1/3+1/3:a 2/3+1/3:b");
+        rowIs("some 500 (struct '1*3') 'a b'", 0, "0+1/2:a 2/3+1/3:b");
+        rowIs("some 500 (struct '1*3') 'a b'", 1, "0+1/2:a 1/2+1/2:b");
+        rowIs("some 500 (struct '1*3') 'a b'", 2, "0+1/3:a 1/3+1/3:a 1/2+1/2:b");
+        rowIs("inside 2 (struct '1*3') 'a b'", 0, "0+1/6:a 1/6+1/6:a 1/3+1/6:a 1/2+1/6:b 2/3+1/6:b 5/6+1/6:b");
+        rowIs("'[a b,c d e]' & '[f,g h i j k]'", 0, "0+1/2:a 0+1/3:c 0+1:f 0+1/5:g 1/5+1/5:h 1/3+1/3:d 2/5+1/5:i 1/2+1/2:b 3/5+1/5:j 2/3+1/3:e 4/5+1/5:k");
+        rowIs("'<[a b] [c d e]>'", 0, "0+1/2:a 1/2+1/2:b");
+        rowIs("'<[a b] [c d e]>'", 1, "0+1/3:c 1/3+1/3:d 2/3+1/3:e");
+        rowIs("'a b' ; 'c d e'", 0, "0+1/2:a 1/2+1/2:b");
+        rowIs("'a b' ; 'c d e'", 1, "0+1/3:c 1/3+1/3:d 2/3+1/3:e");
+        rowIs("'{[a b] [c d e]}%2'", 0, "0+1/4:a 1/4+1/4:b 1/2+1/6:c 2/3+1/6:d 5/6+1/6:e");
+        rowIs("'[a b] [c d e]'", 0, "0+1/4:a 1/4+1/4:b 1/2+1/6:c 2/3+1/6:d 5/6+1/6:e");
+        rowIs("'[a b](2,3)'", 0, "0+1/6:a 1/6+1/6:b 2/3+1/6:a 5/6+1/6:b");
+        rowIs("rev '[a b,c d e]'", 0, "0+1/2:b 0+1/3:e 1/3+1/3:d 1/2+1/2:a 2/3+1/3:c");
+        rowIs("ply 2 '[a b,c d e]'", 0, "0+1/4:a 0+1/6:c 1/6+1/6:c 1/4+1/4:a 1/3+1/6:d 1/2+1/6:d 1/2+1/4:b 2/3+1/6:e 3/4+1/4:b 5/6+1/6:e");
     }
 
     /** The DRAW of an event with BEGIN c + x / y, as the document tells it. */
