@@ -13,6 +13,7 @@ final class MakeEdgeTest {
         work();
         depth();
         oneAheadOfAnother();
+        onePartAheadOfAnother();
         roundedUp();
         usesWithinOthers();
         fortyDefinitions();
@@ -305,6 +306,36 @@ final class MakeEdgeTest {
         edge(5, "'" + words + "'", "^fast 64 '" + words + "'");
         edge(5, "'" + words + "'", "^fast 3 '" + words + "'");
         edge(7, "'" + words + "'", "^fast 3 '" + Check.times(198, "a ") + "'");
+    }
+
+    /** All ARGS as they stand, those of a FUN, too, then what FUNS make, then the part: the first FAULT of these is told. */
+    private static void onePartAheadOfAnother() {
+        String wrong = "'[a*20]*21'";
+        String marked = "'[a*20]^*21'";
+        new Check().hangFault("struct " + marked + " " + wrong, 7, 3);
+        new Check().hangFault("struct 'a' " + marked, 7, 5);
+        new Check().hangFault(marked + " # " + wrong + " & " + wrong, 7, 3);
+        new Check().hangFault("'a' # " + marked + " & " + wrong, 7, 5);
+        new Check().hangFault("'a' & 'b' ; " + marked + " & " + wrong, 7, 7);
+        new Check().hangFault("'[a*20]*20' ^& '[b*20]*20' & 'c' # 'd'", 7, 16);
+        new Check().hangFault("every 2 (# " + marked + ") " + wrong, 7, 3);
+        new Check().hangFault("every 2 (# 'a' . # " + marked + ") " + wrong, 7, 5);
+        new Check().hangFault("every 2 (fast 32 . fast 32) " + marked, 7, 3);
+        new Check().hangFault("every 2 (^fast 32 . fast 32) 'a'", 7, 3);
+        new Check().hangFault("every 2 (fast 32 . ^fast 32) 'a*20'", 7, 3);
+        new Check().hangFault("every 2 (every 2 (^fast 32) . fast 32) 'a'", 7, 3);
+        new Check().hangFault("every 2 (struct " + marked + " . fast 32) " + wrong, 7, 3);
+        new Check().hangFault("some 5 (^fast 32) 'a*20'", 7, 5);
+        new Check().hangFault("off 1 (^fast 32) 'a*20'", 7, 3);
+        new Check().hangFault("inside 2 (^fast 32) 'a*20'", 7, 4);
+        new Check().hangFault("fast 32 (fast 2 " + marked + ")", 7, 3);
+        new Check().hangFault("^fast 32 (fast 32 'a')", 7, 3);
+        Check all = new Check().with("f x = fast 32 x\ng x y = x & f y");
+        all.hangFault("g " + marked + " " + wrong, 7, 3);
+        all.hangFault("g 'a' " + marked, 7, 5);
+        all.hangFault("^g 'a' 'b*20'", 7, 7);
+        all.hangFault("over (g " + marked + ") " + wrong, 7, 3);
+        all.hangFault("over (^g 'a') 'b*20'", 7, 7);
     }
 
     /** T of fast and slow: rounded up, and one more if it is not by 1. */

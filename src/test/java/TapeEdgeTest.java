@@ -9,6 +9,7 @@ final class TapeEdgeTest {
         highestByteFirst();
         endKeepsTheFirst();
         feedGoesOnBehindTheEnd();
+        bytesBehindTheEnd();
         fullTapeIsRead();
         everyByteBehindAnExpression();
         everyByteInAText();
@@ -136,6 +137,48 @@ final class TapeEdgeTest {
         Check.same("one", x.ask(0, 0), 1);
         Check.same("aabc", x.event(0, 6), 4);
         Check.same("b", x.letter(0, 2), 'b');
+    }
+
+    /** Reads the first bytes of a tape only, up to where ^ stands: what stood behind them is none of the tape's. */
+    private static void cut(String marked, int fault, int place) {
+        int size = marked.indexOf('^');
+        Check all = new Check().tape(marked.replace("^", ""));
+        Check.same("end of " + marked, all.x().end(size), true);
+        Check.same("hang of " + marked, all.x().hang(0), fault);
+        Check.same("place of " + marked, all.x().told(1), place);
+        Check again = new Check();
+        again.hang(0, marked.replace("^", ""));
+        again.tape(marked.substring(0, size));
+        Check.same("hang of " + marked + " behind a longer one", again.x().hang(0), fault);
+        Check.same("place of it", again.x().told(1), place);
+    }
+
+    private static void bytesBehindTheEnd() {
+        cut("'a'^ & 'b'", 0, -1);
+        cut("'a' &^ 'b'", 1, 5);
+        cut("'a^'", 1, 0);
+        cut("'a^ b'", 1, 0);
+        cut("fast^ 2 'a'", 1, 4);
+        cut("fast 2^ 'a'", 1, 6);
+        cut("fast 2^9 'a'", 1, 6);
+        cut("fast 6^9 'a'", 1, 6);
+        cut("fast 2^:0 'a'", 1, 6);
+        cut("fast 2:^1 'a'", 1, 6);
+        cut("fast 2:1^00 'a'", 1, 8);
+        cut("drop 1000^0 'a'", 1, 9);
+        cut("over re^v 'a'", 2, 5);
+        cut("over rev^x 'a'", 1, 8);
+        cut("re^v 'a'", 2, 0);
+        cut("abcdefghijkl^m", 2, 0);
+        cut("('a'^)", 1, 4);
+        cut("'a'\n^x", 0, -1);
+        cut("'a' ^x", 0, -1);
+        cut("^'a'", 1, 0);
+        Check all = new Check().with("x = 'a'\ny = 'b'");
+        all.tape("xy = 'c'");
+        all.x().end(1);
+        Check.same("a shorter name", all.x().hang(0), 0);
+        Check.same("is its own", all.row(0, 0), "0+1:a");
     }
 
     private static void fullTapeIsRead() {
