@@ -9,6 +9,11 @@ final class RobustTest {
         "a ", "b ", "f ", "g ", "a = ", "b = ", "f x = ", "g x y = ", "x ", "y ", "(rev) ", "(# 'x') ", "0", "33", "1:0", "12345", "A", "\u00ff"
     };
 
+    private static final int MOST_CALLS = 512;
+    /** A tape of bits has at most some 200 bytes: ten calls that feed it, one that reads it. */
+    private static final int MOST_AT_ONCE = 11;
+    private static int calls = 0;
+
     public static void main(String[] args) {
         for (int seed = 0; seed < 1500; seed++) {
             Check.same("run " + seed, run(seed), run(seed));
@@ -21,7 +26,8 @@ final class RobustTest {
         Random random = new Random(seed);
         CycleStudio x = new CycleStudio();
         long all = 0;
-        for (int call = 0; call < 512; call++) {
+        calls = 0;
+        while (calls <= MOST_CALLS - MOST_AT_ONCE) {
             all = all * 31 + one(x, random);
         }
         return all;
@@ -35,9 +41,10 @@ final class RobustTest {
     private static int one(CycleStudio x, Random random) {
         int a = any(random);
         int b = any(random);
+        calls++;
         switch (random.nextInt(22)) {
             case 0: return x.feed(random.nextInt(), a, b, a ^ b, random.nextInt()) ? 1 : 0;
-            case 1: return x.end(random.nextInt(3) == 0 ? a : x.about(6)) ? 1 : 0;
+            case 1: calls++; return x.end(random.nextInt(3) == 0 ? a : x.about(6)) ? 1 : 0;
             case 2: return x.read();
             case 3: return x.hang(a);
             case 4: return x.hush(a) ? 1 : 0;
@@ -73,6 +80,7 @@ final class RobustTest {
                 four[i / 4] |= b << (24 - 8 * (i % 4));
             }
             x.feed(four[0], four[1], four[2], four[3], four[4]);
+            calls++;
         }
         return random.nextBoolean() ? x.read() : x.hang(random.nextInt(8));
     }
